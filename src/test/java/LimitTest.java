@@ -12,6 +12,8 @@ public final class LimitTest {
         mostSteps();
         mostHotPlaces();
         manyCrossingsAtFewPlaces();
+        newPlacesBehindManyCrossings();
+        tooManyPlacesBehindManyCrossings();
         CHECKS.end();
     }
 
@@ -124,9 +126,7 @@ public final class LimitTest {
     /** More crossings than any row holds, all at one place; then far too many places. */
     private static void manyCrossingsAtFewPlaces() {
         HotCells cells = new HotCells();
-        for (int i = 1; i <= 500; i++) {
-            cells.edge(-400000, -i, 400000, i);
-        }
+        star(cells, 500);
         CHECKS.due("lay() a star of 500", cells.lay(), 1000);
         CHECKS.due("nodes() of the star", cells.nodes(), 1001);
         CHECKS.due("way(499) of the star", cells.way(499), 3);
@@ -136,5 +136,44 @@ public final class LimitTest {
         }
         CHECKS.due("lay() of too many crossings", cells.lay(), -12);
         CHECKS.due("nodes() stays", cells.nodes(), 1001);
+    }
+
+    private static void star(HotCells cells, int edges) {
+        for (int i = 1; i <= edges; i++) {
+            cells.edge(-400000, -i, 400000, i);
+        }
+    }
+
+    /** The last edge's crossings come when far more than any row holds have come before. */
+    private static void newPlacesBehindManyCrossings() {
+        HotCells cells = new HotCells();
+        star(cells, 400);
+        cells.edge(200000, -1, 200000, 500);
+        CHECKS.due("lay() a crossed star", cells.lay(), 400 + 200 + 201 + 400);
+        CHECKS.due("nodes() of the crossed star", cells.nodes(), 800 + 1 + 2 + 200);
+        CHECKS.due("way(0) of the crossed star", cells.way(0), 4);
+        CHECKS.due("way(2) of the crossed star", cells.way(2), 5);
+        CHECKS.due("way(399) of the crossed star", cells.way(399), 4);
+        CHECKS.due("way(400) of the crossed star", cells.way(400), 202);
+    }
+
+    /** The pieces and the steps would fit here, so the hot places alone are too many. */
+    private static void tooManyPlacesBehindManyCrossings() {
+        HotCells cells = new HotCells();
+        cells.edge(0, 0, 1, 0);
+        cells.lay();
+        cells.clear();
+        grid(cells, 40, 40);
+        for (int e = 0; e < 1720; e++) {
+            cells.edge(e, 1000, e, 1001);
+        }
+        for (int p = 0; p < 1000; p++) {
+            cells.point(p, 2000);
+        }
+        for (int i = 1; i <= 200; i++) {
+            cells.edge(-400000, -400000 - i, 400000, -400000 + i);
+        }
+        CHECKS.due("lay() of 6601 hot places", cells.lay(), -12);
+        CHECKS.due("nodes() stays", cells.nodes(), 2);
     }
 }
