@@ -380,7 +380,8 @@ public final class PromiseTest {
         cells.point(500000, 500000);
         due("find before lay()", cells.find(-3, 2), -1);
         cells.lay();
-        for (int[] beside : new int[][] {{1, 0}, {1, -2}, {0, -1}, {2, -1}, {-3, 1}, {-3, -6}, {4, 3}, {2, -3}, {0, 0}}) {
+        for (int[] beside : new int[][] {{1, 0}, {1, -2}, {0, -1}, {2, -1}, {-3, 1}, {-3, -6}, {4, 3},
+            {2, -3}, {0, 0}}) {
             due("find(" + beside[0] + ", " + beside[1] + ")", cells.find(beside[0], beside[1]), -1);
         }
         due("find above the last", cells.find(500000, 500001), -1);
