@@ -2,8 +2,8 @@ import java.util.List;
 
 /**
  * "At most": each limit of the document, reached and passed by one, and what
- * stays when it is passed. Those on edges, points and hot places take more
- * calls than the 512 that are promised.
+ * stays when it is passed. Those on edges and points take more calls than the
+ * 512 that are promised.
  */
 public final class LimitTest {
     private static final Checks CHECKS = new Checks();
@@ -18,6 +18,7 @@ public final class LimitTest {
         atMost20000Steps();
         atMost20000StepsOfFewPieces();
         atMost6000HotPlaces();
+        atMost6000HotPlacesOf512Calls();
         hotPlacesCountOnce();
         tooManyHotPlacesOfPointsAlone();
         whatWasLaidStays();
@@ -198,6 +199,45 @@ public final class LimitTest {
         CHECKS.due("find the last", cells.find(2000, 999), 5999);
         cells.edge(1000, 0, 1000, -1);
         dueRefused("6001 hot places", cells);
+    }
+
+    /**
+     * Level edges, and edges of slopes 1/4 and -1/4, three of which cross in a
+     * row of three hot places 41 * 41 times: so each hot place has few pieces.
+     * There are 3 * 1681 hot places and the ends of 41 + 41 + 81 edges.
+     */
+    private static void rowsOfThree(HotCells cells) {
+        for (int k = 0; k < 41; k++) {
+            cells.edge(40 * k - 20, 10 * k, 40 * k + 3222, 10 * k);
+        }
+        for (int i = 0; i < 41; i++) {
+            cells.edge(80 * i - 20, -5, 80 * i + 1620, 405);
+        }
+        for (int i = 0; i < 81; i++) {
+            cells.edge(80 * i + 22, -5, 80 * i - 1618, 405);
+        }
+    }
+
+    /** Within the calls that are promised, and with pieces and steps that would fit. */
+    private static void atMost6000HotPlacesOf512Calls() {
+        HotCells cells = new HotCells();
+        rowsOfThree(cells);
+        CHECKS.due("lay() rows of three", cells.lay(), 5 * 1681 + 163);
+        CHECKS.due("nodes() of rows of three", cells.nodes(), 3 * 1681 + 2 * 163);
+        for (int e = 0; e < 300; e++) {
+            cells.edge(e, 1000, e, 1001);
+        }
+        for (int p = 0; p < 31; p++) {
+            cells.point(p, 2000);
+        }
+        CHECKS.due("lay() 6000 hot places", cells.lay(), 5 * 1681 + 163 + 300);
+        CHECKS.due("nodes() 6000", cells.nodes(), 6000);
+        CHECKS.due("point", cells.point(31, 2000), 32);
+        CHECKS.due("lay() 6001 hot places", cells.lay(), -12);
+        CHECKS.due("nodes() 6000, as before", cells.nodes(), 6000);
+        CHECKS.due("pieces(), as before", cells.pieces(), 5 * 1681 + 163 + 300);
+        CHECKS.due("find of what is not laid", cells.find(31, 2000), -1);
+        CHECKS.due("find of the last", cells.find(30, 2000) >= 0 ? 1 : 0, 1);
     }
 
     /** Unlike places are counted: of 6000 some are hot more than once. */

@@ -9,6 +9,9 @@ public final class TermsTest {
     private static final Checks CHECKS = new Checks();
 
     public static void main(String[] args) {
+        bentThroughCellsWhereTheyEndOrCross();
+        meetsAtGridPlacesAlone();
+        noneGoesFar();
         usedForAtMost512Calls();
         placesFromMinus500000To500000();
         theLesserPlace();
@@ -46,6 +49,92 @@ public final class TermsTest {
 
     private static HotCells laid(int... ends) {
         return Checks.laid(ends);
+    }
+
+    // Bends straight edges between whole-number places through the cells of all places where they end or cross:
+    private static void bentThroughCellsWhereTheyEndOrCross() {
+        HotCells cells = laid(0, 0, 8, 2, 3, 1, 3, 9, 5, 9, 5, 1);
+        CHECKS.dueWay("past two ends", cells, 0, 0, 0, 3, 1, 5, 1, 8, 2);
+        cells = laid(0, 0, 8, 2, 3, 2, 3, 9, 5, 9, 5, 2);
+        CHECKS.dueWay("past no end", cells, 0, 0, 0, 8, 2);
+        cells = laid(0, 0, 8, 2, 3, -9, 3, 9, 5, 9, 5, -9);
+        CHECKS.dueWay("over two edges", cells, 0, 0, 0, 3, 1, 5, 1, 8, 2);
+        cells = laid(0, 0, 8, 2, 1, 1, 4, 0);
+        CHECKS.dueWay("over an edge", cells, 0, 0, 0, 2, 1, 8, 2);
+        CHECKS.dueWay("the edge over it", cells, 1, 1, 1, 2, 1, 4, 0);
+    }
+
+    /** Edges that lie close to one another, each turned a little against the one before. */
+    private static HotCells bundle(int slope) {
+        HotCells cells = new HotCells();
+        for (int i = -9; i <= 9; i++) {
+            cells.edge(-40, slope - i, 40 + i, i - slope);
+        }
+        cells.lay();
+        return cells;
+    }
+
+    /** Twice the area of the triangle of two nodes and a place; above 0 when the place lies to the left. */
+    private static long side(HotCells cells, int from, int to, int place) {
+        long dx = cells.node(to, 0) - cells.node(from, 0);
+        long dy = cells.node(to, 1) - cells.node(from, 1);
+        return dx * (cells.node(place, 1) - cells.node(from, 1)) - dy * (cells.node(place, 0) - cells.node(from, 0));
+    }
+
+    // What comes out meets at grid places alone,
+    private static void meetsAtGridPlacesAlone() {
+        for (int slope = -20; slope <= 20; slope += 5) {
+            HotCells cells = bundle(slope);
+            CHECKS.holds("a bundle has many pieces", cells.pieces() > 60);
+            for (int p = 0; p < cells.pieces(); p++) {
+                for (int n = 0; n < cells.nodes(); n++) {
+                    CHECKS.holds("node " + n + " lies inside piece " + p + " of bundle " + slope,
+                        !liesInside(cells, cells.piece(p, 0), cells.piece(p, 1), n));
+                }
+                for (int q = 0; q < p; q++) {
+                    CHECKS.holds("pieces " + p + " and " + q + " of bundle " + slope + " cross",
+                        !cross(cells, cells.piece(p, 0), cells.piece(p, 1), cells.piece(q, 0), cells.piece(q, 1)));
+                }
+            }
+        }
+    }
+
+    /** Whether two pieces with no end in common have a place in common; two in one line would have a node inside. */
+    private static boolean cross(HotCells cells, int a, int b, int c, int d) {
+        if (a == c || a == d || b == c || b == d) {
+            return false;
+        }
+        int onC = Long.signum(side(cells, a, b, c));
+        int onD = Long.signum(side(cells, a, b, d));
+        int onA = Long.signum(side(cells, c, d, a));
+        int onB = Long.signum(side(cells, c, d, b));
+        return onC * onD <= 0 && onA * onB <= 0 && (onC != 0 || onD != 0);
+    }
+
+    /** Of three nodes in one line the middle one is the middle one in number too. */
+    private static boolean liesInside(HotCells cells, int lesser, int other, int node) {
+        return side(cells, lesser, other, node) == 0 && node > lesser && node < other;
+    }
+
+    // and none goes far from where it was: no node is more than half a step by x and half a step by y off its edge.
+    private static void noneGoesFar() {
+        for (int slope = -20; slope <= 20; slope += 5) {
+            HotCells cells = bundle(slope);
+            for (int e = 0; cells.way(e) >= 0; e++) {
+                int from = cells.wayNode(e, 0);
+                int to = cells.wayNode(e, cells.way(e) - 1);
+                long dx = Math.abs(cells.node(to, 0) - cells.node(from, 0));
+                long dy = Math.abs(cells.node(to, 1) - cells.node(from, 1));
+                due("x where edge " + e + " begins", cells.node(from, 0), -40);
+                due("y where edge " + e + " begins", cells.node(from, 1), slope - (e - 9));
+                due("x where edge " + e + " ends", cells.node(to, 0), 40 + (e - 9));
+                due("y where edge " + e + " ends", cells.node(to, 1), e - 9 - slope);
+                for (int k = 1; k < cells.way(e) - 1; k++) {
+                    long off = 2 * Math.abs(side(cells, from, to, cells.wayNode(e, k)));
+                    CHECKS.holds("edge " + e + " of bundle " + slope + " goes far", off <= dx + dy);
+                }
+            }
+        }
     }
 
     /** A cross, laid, that has been used for that many calls. */
